@@ -20,6 +20,9 @@ public final class SsaForge {
     private static final int MAX_SET = 1000;
     /** A text's block has at most 60 PREDS, and nothing that is done later gives a block more. */
     private static final int MAX_ARGS = MAX_SET * TEXT_BLOCKS;
+    /** Few functions need more, and an object should be small: the rest comes when it is asked for. */
+    private static final int FIRST_ARGS = 4096;
+    private static final int FIRST_RESULT = 4096;
     /** v0 to v999, and the one register that PLAIN may need beside them. */
     private static final int REGISTER_WORDS = 16;
     private static final int REGISTER_ROOM = 64 * REGISTER_WORDS;
@@ -68,7 +71,7 @@ public final class SsaForge {
     private boolean flowKnown = false;
     private final Live live = new Live();
     private boolean liveKnown = false;
-    private final Reader reader = new Reader(tape, code);
+    private final Reader reader = new Reader();
     private final SsaMaker ssaMaker = new SsaMaker();
     private final Constants constants = new Constants();
     private final Likes likes = new Likes();
@@ -101,7 +104,7 @@ public final class SsaForge {
     }
 
     public int text() {
-        int place = reader.readAll(tapeLength, code);
+        int place = reader.readAll(tape, tapeLength, code);
         tapeLength = 0;
         form = place < 0 ? PLAIN : NO_PROGRAM;
         flowKnown = false;
@@ -451,7 +454,7 @@ public final class SsaForge {
         final int[] phiTarget = new int[MAX_SET];
         /** A phi's operands stand in the order of its block's preds. */
         final int[] argStart = new int[MAX_SET];
-        final long[] args = new long[MAX_ARGS];
+        long[] args = new long[FIRST_ARGS];
 
         void clear() {
             blocks = 0;
@@ -460,6 +463,13 @@ public final class SsaForge {
             argCount = 0;
             rowStart[0] = 0;
             phiStart[0] = 0;
+        }
+
+        /** Makes room for operands of phis; those that were there are lost. At least doubled, it is seldom made. */
+        void openArgs(int room) {
+            if (room > args.length) {
+                args = new long[Math.max(room, Math.min(2 * room, MAX_ARGS))];
+            }
         }
 
         boolean addRow(int rowOp, int set, long a, long b) {
@@ -702,14 +712,14 @@ public final class SsaForge {
         private static final long TOO_GREAT = 1L << 32;
 
         int reason = 0;
-        private final byte[] bytes;
+        private byte[] bytes = new byte[0];
         private int length = 0;
         private int at = 0;
         private int kind = TEXT_END;
         private int place = 0;
         private int value = 0;
         private int state = WANT_LABEL;
-        private Code code;
+        private Code code = null;
         private int rowCount = 0;
         private int blockCount = 0;
         private int rowTarget = 0;
@@ -720,14 +730,9 @@ public final class SsaForge {
         private final boolean[] labelled = new boolean[TEXT_BLOCKS];
         private final int[] goalPlace = new int[TEXT_BLOCKS];
 
-        Reader(byte[] text, Code into) {
-            bytes = text;
-            code = into;
-        }
-
         /** Answers -1, or the place where the text is wrong, with its reason beside it. */
-        int readAll(int textLength, Code into) {
-            begin(textLength, into);
+        int readAll(byte[] text, int textLength, Code into) {
+            begin(text, textLength, into);
             for (int n = 0; n <= textLength; n++) {
                 scan();
                 if (kind == TEXT_END) {
@@ -749,7 +754,8 @@ public final class SsaForge {
             return brokenPlace;
         }
 
-        private void begin(int textLength, Code into) {
+        private void begin(byte[] text, int textLength, Code into) {
+            bytes = text;
             length = textLength;
             code = into;
             at = 0;
@@ -810,7 +816,7 @@ public final class SsaForge {
         }
 
         private void scanWord() {
-            for (; letterAt(at); at++) {
+            for (; at < length && letterAt(at); at++) {
                 value = byteAt(at);
             }
             boolean lone = at == place + 1;
@@ -863,7 +869,7 @@ public final class SsaForge {
         /** Reads digits; what is too great for any sign stays at a number that is. */
         private long digits() {
             long number = 0;
-            for (; digitAt(at); at++) {
+            for (; at < length && digitAt(at); at++) {
                 number = Math.min(number * 10 + (byteAt(at) - '0'), TOO_GREAT);
             }
             return number;
@@ -1081,13 +1087,13 @@ public final class SsaForge {
 
         /** A text that has broken a rule is only read on for its signs: it may be far too long to keep. */
         private void keepRow(int op, int set, long a, long b) {
-            if (brokenPlace < 0) {
+            if (brokenPlace < 0 && code != null) {
                 code.addRow(op, set, a, b);
             }
         }
 
         private void keepEnd(int endKind, long use, int one, int two) {
-            if (brokenPlace < 0) {
+            if (brokenPlace < 0 && code != null) {
                 code.closeBlock(endKind, use, one, two);
             }
         }
@@ -1236,10 +1242,12 @@ public final class SsaForge {
                 int b = stack[depth];
                 order[n] = b;
                 place[b] = n;
-                // the children fall in number down to 0, so the least is on top of the stack
-                for (int child = firstChild[b]; child > 0; child = nextChild[child]) {
+                // children come from the greatest to the least, so that the least is on top of the stack
+                int child = firstChild[b];
+                for (int k = 0; child > 0 && k < MAX_BLOCKS; k++) {
                     stack[depth] = child;
                     depth++;
+                    child = nextChild[child];
                 }
             }
             for (int n = reached - 1; n > 0; n--) {
@@ -1483,6 +1491,7 @@ public final class SsaForge {
                 return false;
             }
             addZeros(c, live, zeros);
+            c.openArgs(args);
             addPhis(c, words);
             renumber(c, flow);
             return true;
@@ -2156,7 +2165,7 @@ public final class SsaForge {
                 }
             }
             to.findPreds();
-            to.phis = 0;
+            to.openArgs(from.argCount);
             for (int b = 0; b < to.blocks; b++) {
                 takePhis(from, to, b);
                 to.phiStart[b + 1] = to.phis;
@@ -2186,7 +2195,7 @@ public final class SsaForge {
                 to.phis++;
                 for (int k = to.predStart[b]; k < to.predStart[b + 1]; k++) {
                     int was = from.predIndex(old, lastOf[to.preds[k]]);
-                    if (was >= 0 && to.argCount < MAX_ARGS) {
+                    if (was >= 0 && to.argCount < to.args.length) {
                         to.args[to.argCount] = from.args[from.argStart[i] + was];
                         to.argCount++;
                     }
@@ -2314,8 +2323,8 @@ public final class SsaForge {
                 }
             }
             int least = 0;
-            for (; least < REGISTER_ROOM - 1 && busy[least] == stamp; least++) {
-                continue;
+            while (least < REGISTER_ROOM - 1 && busy[least] == stamp) {
+                least++;
             }
             colour[register] = least;
             colours = Math.max(colours, least + 1);
@@ -2387,8 +2396,8 @@ public final class SsaForge {
                 }
             }
             int least = 0;
-            for (; least < REGISTER_ROOM - 1 && present[least]; least++) {
-                continue;
+            while (least < REGISTER_ROOM - 1 && present[least]) {
+                least++;
             }
             return least;
         }
@@ -2643,7 +2652,7 @@ public final class SsaForge {
     /** Writes listings; the latest one is kept as the result. */
     private static final class Printer {
         int length = 0;
-        private final byte[] result = new byte[MAX_RESULT];
+        private byte[] result = new byte[FIRST_RESULT];
         private final int[] digits = new int[10];
         private boolean keeping = false;
         private int at = 0;
@@ -2655,10 +2664,14 @@ public final class SsaForge {
             return at;
         }
 
+        /** Writes a listing that has been measured. */
         void write(Code c) {
+            if (at > result.length) {
+                result = new byte[Math.max(at, Math.min(2 * at, MAX_RESULT))];
+            }
             keeping = true;
             printAll(c);
-            length = Math.min(at, MAX_RESULT);
+            length = Math.min(at, result.length);
         }
 
         long eightBytes(int from) {
@@ -2773,7 +2786,7 @@ public final class SsaForge {
         }
 
         private void putByte(int value) {
-            if (keeping && at < MAX_RESULT) {
+            if (keeping && at < result.length) {
                 result[at] = (byte) value;
             }
             at++;

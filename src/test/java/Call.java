@@ -16,20 +16,31 @@ final class Call {
         }
     }
 
+    private interface Feed {
+        int feed(int a, int b, int c, int d, int e);
+    }
+
+    private interface End {
+        int end(int n);
+    }
+
     static void feedBytes(SsaForge x, byte[] bytes) {
-        int kept = x.count(7);
-        for (int i = 0; i < bytes.length; i += 20) {
-            x.feed(word(bytes, i), word(bytes, i + 4), word(bytes, i + 8), word(bytes, i + 12), word(bytes, i + 16));
-        }
-        x.end(kept + bytes.length);
+        feedBytes(bytes, x.count(7), x::feed, x::end);
     }
 
     static void feedBytes(Model x, byte[] bytes) {
-        int kept = x.count(7);
+        feedBytes(bytes, x.count(7), x::feed, x::end);
+    }
+
+    /** Twenty bytes at a time; the last twenty may overlap what is there, so that a tape can be filled. */
+    private static void feedBytes(byte[] bytes, int kept, Feed feed, End end) {
         for (int i = 0; i < bytes.length; i += 20) {
-            x.feed(word(bytes, i), word(bytes, i + 4), word(bytes, i + 8), word(bytes, i + 12), word(bytes, i + 16));
+            int from = kept + i + 20 > 8192 && bytes.length >= 20 ? bytes.length - 20 : i;
+            end.end(kept + from);
+            feed.feed(word(bytes, from), word(bytes, from + 4), word(bytes, from + 8), word(bytes, from + 12),
+                    word(bytes, from + 16));
         }
-        x.end(kept + bytes.length);
+        end.end(kept + bytes.length);
     }
 
     private static int word(byte[] bytes, int from) {

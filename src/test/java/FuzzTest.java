@@ -9,6 +9,7 @@ public final class FuzzTest {
     private final SsaForge x = new SsaForge();
     private final Model model = new Model();
     private final List<String> told = new ArrayList<>();
+    private String meaning = "";
 
     private FuzzTest(long seed) {
         random = new Random(seed);
@@ -55,12 +56,14 @@ public final class FuzzTest {
             Call.feedBytes(x, input);
             Call.feedBytes(model, input);
             same("input", x::input, model::input);
-            String text = random.nextInt(8) == 0 ? spoilt(program()) : program();
+            String text = random.nextInt(3) == 0 ? nested() : program();
+            text = random.nextInt(8) == 0 ? spoilt(text) : text;
             told.add("text " + text);
             Call.feedBytes(x, Call.latin(text));
             Call.feedBytes(model, Call.latin(text));
             same("text", x::text, model::text);
             look();
+            meaning = meaning(2000);
             changes();
         }
     }
@@ -74,16 +77,55 @@ public final class FuzzTest {
             for (int i = 0; i < passes; i++) {
                 int k = 1 + random.nextInt(random.nextInt(4) == 0 ? 8 : 6);
                 told.add("pass " + k + " " + same("pass " + k, () -> x.pass(k), () -> model.pass(k)));
+                keepsMeaning();
                 if (random.nextBoolean()) {
                     look();
                 }
             }
             if (random.nextInt(3) == 0) {
-                told.add("pass 7 " + same("pass 7", () -> x.pass(7), () -> model.pass(7)));
-                look();
+                colours();
             }
             told.add("plain " + same("plain", x::plain, model::plain));
             look();
+            keepsMeaning();
+        }
+    }
+
+    /** In this form just as many colours are needed as registers are live at one place. */
+    private void colours() {
+        int peak = model.count(0) == 1 ? x.count(4) : -1;
+        String colours = same("pass 7", () -> x.pass(7), () -> model.pass(7));
+        told.add("pass 7 " + colours);
+        if (peak >= 0 && !colours.equals(Integer.toString(peak))) {
+            told.add("but " + peak + " were live at one place");
+            throw new Stop();
+        }
+        keepsMeaning();
+        look();
+    }
+
+    /** What a run does, steps aside; empty if it is not known, as the fuel was too small or nothing ran. */
+    private String meaning(int fuel) {
+        if (model.count(0) < 0) {
+            return "";
+        }
+        same("run " + fuel, () -> x.run(fuel), () -> model.run(fuel));
+        if (x.told(4) == 4) {
+            return "";
+        }
+        StringBuilder all = new StringBuilder();
+        all.append(x.told(4)).append(" ").append(x.told(0)).append(" ").append(x.told(3)).append(":");
+        for (int i = 0; i < x.told(1); i++) {
+            all.append(" ").append(x.shown(i));
+        }
+        return all.toString();
+    }
+
+    /** Whatever is changed, a run shows and answers what it did at first. */
+    private void keepsMeaning() {
+        if (!meaning.isEmpty() && !meaning.equals(meaning(100000))) {
+            told.add("the meaning was " + meaning + " and is " + meaning(100000));
+            throw new Stop();
         }
     }
 
@@ -126,8 +168,9 @@ public final class FuzzTest {
     private static final String[] NUMBERS = {"0", "1", "-1", "2", "3", "5", "31", "33", "2147483647", "-2147483648"};
 
     private String program() {
-        int blocks = 1 + random.nextInt(random.nextInt(4) == 0 ? 14 : 7);
-        int registers = 1 + random.nextInt(random.nextInt(3) == 0 ? 12 : 4);
+        boolean big = random.nextInt(400) == 0;
+        int blocks = 1 + random.nextInt(big ? 60 : random.nextInt(4) == 0 ? 14 : 7);
+        int registers = 1 + random.nextInt(big ? 60 : random.nextInt(3) == 0 ? 12 : 4);
         int rows = random.nextInt(5);
         StringBuilder text = new StringBuilder();
         for (int b = 0; b < blocks; b++) {
@@ -138,6 +181,51 @@ public final class FuzzTest {
             text.append(end(blocks, registers)).append(gap());
         }
         return text.toString();
+    }
+
+    /** Ifs and loops inside one another, as people write them, with much that can be folded, moved and joined. */
+    private String nested() {
+        List<StringBuilder> blocks = new ArrayList<>();
+        blocks.add(new StringBuilder());
+        int registers = 2 + random.nextInt(6);
+        int last = nest(blocks, 0, registers, 3);
+        blocks.get(last).append(random.nextBoolean() ? "ret v0" : "show v1 show v0 ret v1");
+        StringBuilder text = new StringBuilder();
+        for (int b = 0; b < blocks.size(); b++) {
+            text.append("b").append(b).append(": ").append(blocks.get(b)).append("\n");
+        }
+        return text.toString();
+    }
+
+    /** Goes on in a block; answers the block in which what comes next stands. */
+    private int nest(List<StringBuilder> blocks, int from, int registers, int depth) {
+        int at = from;
+        for (int i = 1 + random.nextInt(3); i > 0; i--) {
+            int kind = depth == 0 || blocks.size() > 12 ? 0 : random.nextInt(4);
+            if (kind < 2) {
+                blocks.get(at).append(row(registers)).append("\n");
+                continue;
+            }
+            int first = blocks.size();
+            for (int k = 0; k < 3; k++) {
+                blocks.add(new StringBuilder());
+            }
+            if (kind == 2) {
+                blocks.get(at).append("if ").append(operand(registers)).append(" b").append(first);
+                blocks.get(at).append(" b").append(first + 1).append("\n");
+                blocks.get(nest(blocks, first, registers, depth - 1)).append("jump b").append(first + 2).append("\n");
+                blocks.get(nest(blocks, first + 1, registers, depth - 1)).append("jump b").append(first + 2).append("\n");
+            } else {
+                String counter = "v" + (100 + first);
+                blocks.get(at).append(counter).append(" = ").append(random.nextInt(4)).append(" jump b").append(first);
+                blocks.get(first).append("if ").append(counter).append(" b").append(first + 1);
+                blocks.get(first).append(" b").append(first + 2);
+                int end = nest(blocks, first + 1, registers, depth - 1);
+                blocks.get(end).append(counter).append(" = ").append(counter).append(" - 1 jump b").append(first);
+            }
+            at = first + 2;
+        }
+        return at;
     }
 
     private String gap() {

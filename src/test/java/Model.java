@@ -334,8 +334,31 @@ final class Model {
     }
 
     private boolean dominates(int a, int b) {
-        Set<Integer> reached = reached();
-        return reached.contains(a) && reached.contains(b) && !reachedWithout(0, a).contains(b);
+        return dominated().get(a).contains(b);
+    }
+
+    private String dominatedKey = "";
+    private List<Set<Integer>> dominatedSets = List.of();
+
+    /** For each block those that it dominates; kept as long as the ways stay the same. */
+    private List<Set<Integer>> dominated() {
+        StringBuilder key = new StringBuilder();
+        code.forEach(block -> key.append(block.goals()));
+        if (!key.toString().equals(dominatedKey)) {
+            List<Set<Integer>> sets = new ArrayList<>();
+            for (int a = 0; a < code.size(); a++) {
+                Set<Integer> set = reached();
+                if (set.contains(a)) {
+                    set.removeAll(reachedWithout(0, a));
+                } else {
+                    set.clear();
+                }
+                sets.add(set);
+            }
+            dominatedKey = key.toString();
+            dominatedSets = sets;
+        }
+        return dominatedSets;
     }
 
     private int idom(int b) {
