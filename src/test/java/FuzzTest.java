@@ -21,7 +21,11 @@ public final class FuzzTest {
         for (int seed = first; seed <= last && wrong < 5; seed++) {
             FuzzTest test = new FuzzTest(seed);
             try {
-                test.oneObject();
+                if (seed % 5 == 0) {
+                    test.anyCalls();
+                } else {
+                    test.oneObject();
+                }
             } catch (Stop stop) {
                 wrong++;
                 System.out.println("seed " + seed + ":");
@@ -46,6 +50,50 @@ public final class FuzzTest {
             throw new Stop();
         }
         return mine;
+    }
+
+    /** Calls in any order with any arguments, most of them in no state for it. */
+    private void anyCalls() {
+        for (int i = 0; i < 150; i++) {
+            int n = random.nextInt(8) == 0 ? random.nextInt() : random.nextInt(12) - 2;
+            int m = random.nextInt(9) - 2;
+            switch (random.nextInt(18)) {
+                case 0, 1 -> feedText();
+                case 2 -> both("text", x::text, model::text);
+                case 3 -> both("input", x::input, model::input);
+                case 4 -> both("feed", () -> x.feed(n, m, n, m, n), () -> model.feed(n, m, n, m, n));
+                case 5 -> both("end " + n, () -> x.end(n), () -> model.end(n));
+                case 6, 7 -> both("ssa", x::ssa, model::ssa);
+                case 8, 9, 10 -> both("pass " + n, () -> x.pass(n), () -> model.pass(n));
+                case 11 -> both("plain", x::plain, model::plain);
+                case 12 -> both("run " + 10 * n, () -> x.run(10 * n), () -> model.run(10 * n));
+                case 13 -> both("told " + m, () -> x.told(m), () -> model.told(m));
+                case 14 -> both("shown " + n, () -> x.shown(n), () -> model.shown(n));
+                case 15 -> both("count " + n, () -> x.count(n), () -> model.count(n));
+                case 16 -> both("block " + n + " " + m, () -> x.block(n, m), () -> model.block(n, m));
+                default -> {
+                    both("list", x::list, model::list);
+                    both("word " + n, () -> x.word(n), () -> model.word(n));
+                }
+            }
+        }
+        look();
+    }
+
+    private void both(String call, Call.Question got, Call.Question due) {
+        told.add(call + " " + same(call, got, due));
+    }
+
+    private void feedText() {
+        String text = random.nextBoolean() ? nested() : program();
+        if (x.count(7) + text.length() + 20 <= 8192) {
+            told.add("feed " + text);
+            Call.feedBytes(x, Call.latin(text));
+            Call.feedBytes(model, Call.latin(text));
+            if (random.nextInt(3) > 0) {
+                both("text", x::text, model::text);
+            }
+        }
     }
 
     private void oneObject() {
