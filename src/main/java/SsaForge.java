@@ -488,10 +488,13 @@ public final class SsaForge {
             right[row] = b;
         }
 
-        void addRowsOf(Code from, int b) {
+        boolean addRowsOf(Code from, int b) {
             for (int i = from.rowStart[b]; i < from.rowStart[b + 1]; i++) {
-                addRow(from.op[i], from.target[i], from.left[i], from.right[i]);
+                if (!addRow(from.op[i], from.target[i], from.left[i], from.right[i])) {
+                    return false;
+                }
             }
+            return true;
         }
 
         boolean closeBlock(int kind, long use, int one, int two) {
@@ -2358,14 +2361,9 @@ public final class SsaForge {
             helper = leastAbsent(c);
             to.clear();
             for (int b = 0; b < c.blocks; b++) {
-                to.addRowsOf(c, b);
-                if (c.goalCount(b) == 1) {
-                    collectMoves(c, c.goalOne[b], b);
-                    if (!writeMoves(to)) {
-                        return -1;
-                    }
+                if (!levelBlock(c, to, b)) {
+                    return -1;
                 }
-                to.closeBlock(c.endKind[b], c.endUse[b], c.goalOne[b], c.goalTwo[b]);
             }
             for (int b = 0; b < c.blocks; b++) {
                 if (c.phiCount(b) > 0 && !splitWays(c, to, b)) {
@@ -2374,6 +2372,19 @@ public final class SsaForge {
             }
             to.findPreds();
             return to.rows - c.rows;
+        }
+
+        private boolean levelBlock(Code c, Code to, int b) {
+            if (!to.addRowsOf(c, b)) {
+                return false;
+            }
+            if (c.goalCount(b) == 1) {
+                collectMoves(c, c.goalOne[b], b);
+                if (!writeMoves(to)) {
+                    return false;
+                }
+            }
+            return to.closeBlock(c.endKind[b], c.endUse[b], c.goalOne[b], c.goalTwo[b]);
         }
 
         private int leastAbsent(Code c) {

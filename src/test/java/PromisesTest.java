@@ -710,12 +710,31 @@ public final class PromisesTest {
         SsaForge w = inSsa(knots(25, 38, repeat(room + 1, "show 1 ")));
         refusedWithoutChange("2001 rows", ArithmeticException.class, w, w::plain);
         refusedWithoutChange("2000 rows set too many registers", ArithmeticException.class, u, u::ssa);
+        SsaForge v = inSsa(star(60, 0));
+        v.plain();
+        int behind = 2000 - v.count(2);
+        SsaForge t = inSsa(star(60, behind));
+        due("2000 rows, the last of them at the end", 1800, t::plain);
+        due("all of them", 2000, () -> t.count(2));
+        SsaForge s = inSsa(star(60, behind + 1));
+        refusedWithoutChange("one row more at the end", ArithmeticException.class, s, s::plain);
         SsaForge y = inSsa(wide(4));
         due("four phis of b1, and one of b3", 5, () -> y.count(3));
         int rows = y.count(2);
         int came = y.plain();
         due("rows that came", came, () -> y.count(2) - rows);
         due("back and forth", 5, y::ssa);
+    }
+
+    /** b1 has 30 preds that end with jump, and a phi for each register; rows of b59 stand behind all others. */
+    private static String star(int registers, int shows) {
+        StringBuilder text = new StringBuilder("b0:jump b1\nb1:");
+        text.append(each(registers, r -> "v" + (r + 1) + "=v" + (r + 1) + "+1 ")).append("if v0 b2 b3\n");
+        for (int b = 2; b < 58; b += 2) {
+            text.append("b").append(b).append(":jump b1\n");
+            text.append("b").append(b + 1).append(":if v0 b").append(b + 2).append(" b").append(b + 3).append("\n");
+        }
+        return text.append("b58:jump b1\nb59:").append(repeat(shows, "show 1 ")).append("ret 0").toString();
     }
 
     /** b1 has 59 preds; it uses registers that the others set, each another one, so that it has a phi for each. */
