@@ -1,8 +1,5 @@
 /** Each promise of the document by hand: ordinary inputs, the edges that it names, and wrong inputs. */
-public final class PromisesTest {
-    private static int wrong = 0;
-    private static int checked = 0;
-
+public final class PromisesTest extends Checks {
     private PromisesTest() {
     }
 
@@ -36,90 +33,7 @@ public final class PromisesTest {
         promise13Block();
         promise14List();
         promise15Word();
-        System.out.println(checked + " answers checked, " + wrong + " not as due");
-        if (wrong != 0) {
-            System.exit(1);
-        }
-    }
-
-    // ---- helpers
-
-    private static void check(String what, String got, String due) {
-        checked++;
-        if (!got.equals(due)) {
-            wrong++;
-            System.out.println(shortened(what) + " answered\n" + shortened(got) + "\ndue is\n" + shortened(due));
-        }
-    }
-
-    private static String shortened(String text) {
-        return text.length() > 2000 ? text.substring(0, 2000) + ".." : text;
-    }
-
-    private static void due(String what, long due, Call.Question question) {
-        check(what, Call.answer(question), Long.toString(due));
-    }
-
-    private static void refused(String what, Class<? extends RuntimeException> due, Call.Question question) {
-        check(what, Call.answer(question), "throws." + due.getSimpleName());
-    }
-
-    private static void lists(String what, SsaForge x, String... lines) {
-        check(what, Call.listing(x), String.join("\n", lines) + "\n");
-    }
-
-    private static SsaForge with(String text) {
-        SsaForge x = new SsaForge();
-        due("text " + text, -1, () -> Call.read(x, text));
-        return x;
-    }
-
-    private static SsaForge inSsa(String text) {
-        SsaForge x = with(text);
-        x.ssa();
-        return x;
-    }
-
-    private static void wrongText(String text, int place, int reason) {
-        SsaForge x = with("b0: ret 1");
-        due("wrong text " + text, place, () -> Call.read(x, text));
-        due("reason of " + text, reason, () -> x.count(5));
-        due("no program after " + text, -1, () -> x.count(0));
-        due("tape is empty after " + text, 0, () -> x.count(7));
-    }
-
-    private static String repeat(int times, String text) {
-        return text.repeat(times);
-    }
-
-    private static String each(int times, java.util.function.IntFunction<String> part) {
-        StringBuilder all = new StringBuilder();
-        for (int i = 0; i < times; i++) {
-            all.append(part.apply(i));
-        }
-        return all.toString();
-    }
-
-    /** What the calls leave as they were: forms, sizes, result, run, tape and listing. */
-    private static String state(SsaForge x) {
-        StringBuilder all = new StringBuilder();
-        for (int i = 0; i < 8; i++) {
-            all.append(x.count(i)).append(" ");
-        }
-        for (int i = 0; i < 5; i++) {
-            all.append(x.told(i)).append(" ");
-        }
-        for (int i = 0; i < x.count(6); i += 8) {
-            all.append(x.word(i)).append(" ");
-        }
-        return all.toString();
-    }
-
-    private static void refusedWithoutChange(
-            String what, Class<? extends RuntimeException> due, SsaForge x, Call.Question question) {
-        String before = state(x);
-        refused(what, due, question);
-        check(what + " changes nothing", state(x), before);
+        finish();
     }
 
     // ---- promises 1 to 3
@@ -334,20 +248,15 @@ public final class PromisesTest {
 
     // ---- promise 6
 
-    private static final String DIAMOND =
-            "b0: v5 = in if v5 b1 b2 b1: v7 = 1 jump b3 b2: v7 = 2 jump b3 b3: show v7 ret v5";
-    private static final String COUNTDOWN =
-            "b0: v1 = 3 jump b1 b1: if v1 b2 b3 b2: v2 = v2 + v1 v1 = v1 - 1 jump b1 b3: ret v2";
-
     private static void promise6Ssa() {
-        SsaForge x = with(DIAMOND);
+        SsaForge x = with(Texts.DIAMOND);
         due("a phi", 1, x::ssa);
         due("form", 1, () -> x.count(0));
         due("phis", 1, () -> x.count(3));
         lists("diamond", x, "b0:", "v0 = in", "if v0 b1 b2", "b1:", "v1 = 1", "jump b3", "b2:", "v2 = 2", "jump b3",
                 "b3:", "v3 = phi(b1 v1, b2 v2)", "show v3", "ret v0");
         refusedWithoutChange("twice", IllegalStateException.class, x, x::ssa);
-        SsaForge y = with(COUNTDOWN);
+        SsaForge y = with(Texts.COUNTDOWN);
         due("two phis", 2, y::ssa);
         lists("loop", y, "b0:", "v0 = 0", "v1 = 3", "jump b1", "b1:", "v2 = phi(b0 v1, b2 v5)", "v3 = phi(b0 v0, b2 v4)",
                 "if v2 b2 b3", "b2:", "v4 = v3 + v2", "v5 = v2 - 1", "jump b1", "b3:", "ret v3");
@@ -358,7 +267,7 @@ public final class PromisesTest {
         lists("blocks that are not reached", inSsa("b0: jump b2 b1: v1 = 3 jump b2 b2: ret v1 b3: jump b1"), "b0:", "v0 = 0",
                 "jump b1", "b1:", "ret v0");
         refused("no program", IllegalStateException.class, () -> new SsaForge().ssa());
-        SsaForge z = inSsa(DIAMOND);
+        SsaForge z = inSsa(Texts.DIAMOND);
         z.pass(7);
         refused("coloured", IllegalStateException.class, z::ssa);
         z.plain();
@@ -382,39 +291,24 @@ public final class PromisesTest {
                 "v4 = 2", "jump b6", "b6:", "v5 = phi(b4 v0, b5 v4)", "show v5", "ret v3");
     }
 
-    /** Every block is a join of each register: with n blocks of that kind and m registers, n * m phis. */
-    private static String knots(int blocks, int registers, String more) {
-        StringBuilder text = new StringBuilder("b0:" + more + "if v0 b1 b2\n");
-        for (int b = 1; b <= blocks; b++) {
-            text.append("b").append(b).append(":");
-            for (int r = b - 1; r < registers; r += blocks) {
-                text.append("v").append(r).append("=in ");
-            }
-            text.append("if v0 b").append(b % blocks + 1).append(" b");
-            text.append(b == blocks ? blocks + 1 : (b + 1) % blocks + 1).append("\n");
-        }
-        text.append("b").append(blocks + 1).append(":").append(each(registers, r -> "show v" + r + " ")).append("ret 0");
-        return text.toString();
-    }
-
     private static void promise6Limits() {
-        SsaForge x = with(knots(24, 38, ""));
+        SsaForge x = with(Texts.knots(24, 38, ""));
         int phis = x.ssa();
         int set = x.pass(6);
         // 38 rows v = in; v23 is set in b24 alone, through which all must go, so 37 are live at the beginning
         due("phis and rows that set", set, () -> phis + 37 + 38);
         int room = 1000 - set;
-        SsaForge y = with(knots(24, 38, repeat(room, "v199=1")));
+        SsaForge y = with(Texts.knots(24, 38, repeat(room, "v199=1")));
         due("1000 registers", phis, y::ssa);
         due("are all there", 1000, () -> y.pass(6));
-        SsaForge z = with(knots(24, 38, repeat(room + 1, "v199=1")));
+        SsaForge z = with(Texts.knots(24, 38, repeat(room + 1, "v199=1")));
         refusedWithoutChange("1001 registers", ArithmeticException.class, z, z::ssa);
         due("still plain", 0, () -> z.count(0));
         due("all its rows", 38 + 38 + room + 1, () -> z.count(2));
         String behind = " b26: " + repeat(9, "v0=1") + "ret 0";
-        SsaForge u = with(knots(24, 38, repeat(room, "v199=1")) + behind);
+        SsaForge u = with(Texts.knots(24, 38, repeat(room, "v199=1")) + behind);
         due("rows that are not reached do not count", phis, u::ssa);
-        SsaForge w = with(knots(24, 38, repeat(room + 1, "v199=1")) + behind);
+        SsaForge w = with(Texts.knots(24, 38, repeat(room + 1, "v199=1")) + behind);
         refusedWithoutChange("blocks stay, too", ArithmeticException.class, w, w::ssa);
         due("blocks stay", 27, () -> w.count(1));
     }
@@ -426,7 +320,7 @@ public final class PromisesTest {
         refused("no pass 0", IllegalArgumentException.class, () -> x.pass(0));
         refused("no pass 8", IllegalArgumentException.class, () -> x.pass(8));
         refused("no program", IllegalStateException.class, () -> x.pass(1));
-        SsaForge y = with(DIAMOND);
+        SsaForge y = with(Texts.DIAMOND);
         for (int i = 1; i <= 7; i++) {
             int k = i;
             refusedWithoutChange("plain", IllegalStateException.class, y, () -> y.pass(k));
@@ -441,7 +335,7 @@ public final class PromisesTest {
     }
 
     private static void promise7Constants() {
-        SsaForge x = inSsa(COUNTDOWN);
+        SsaForge x = inSsa(Texts.COUNTDOWN);
         due("two rows", 2, () -> x.pass(1));
         lists("loop", x, "b0:", "jump b1", "b1:", "v2 = phi(b0 3, b2 v5)", "v3 = phi(b0 0, b2 v4)", "if v2 b2 b3", "b2:",
                 "v4 = v3 + v2", "v5 = v2 - 1", "jump b1", "b3:", "ret v3");
@@ -588,7 +482,7 @@ public final class PromisesTest {
     }
 
     private static void promise7Numbers() {
-        SsaForge x = inSsa(COUNTDOWN);
+        SsaForge x = inSsa(Texts.COUNTDOWN);
         x.pass(1);
         due("four", 4, () -> x.pass(6));
         lists("numbers", x, "b0:", "jump b1", "b1:", "v0 = phi(b0 3, b2 v3)", "v1 = phi(b0 0, b2 v2)", "if v0 b2 b3", "b2:",
@@ -600,7 +494,7 @@ public final class PromisesTest {
     }
 
     private static void promise7Colours() {
-        SsaForge x = inSsa(COUNTDOWN);
+        SsaForge x = inSsa(Texts.COUNTDOWN);
         due("two", 2, () -> x.pass(7));
         due("form", 2, () -> x.count(0));
         lists("colours", x, "b0:", "v0 = 0", "v1 = 3", "jump b1", "b1:", "v0 = phi(b0 v1, b2 v0)", "v1 = phi(b0 v0, b2 v1)",
@@ -625,7 +519,7 @@ public final class PromisesTest {
     // ---- promise 8
 
     private static void promise8Plain() {
-        SsaForge x = inSsa(DIAMOND);
+        SsaForge x = inSsa(Texts.DIAMOND);
         due("two rows", 2, x::plain);
         due("form", 0, () -> x.count(0));
         due("no phis", 0, () -> x.count(3));
@@ -644,7 +538,7 @@ public final class PromisesTest {
         due("only what moves", 3, z::plain);
         lists("coloured swap", z, "b0:", "v0 = in", "v1 = in", "jump b1", "b1:", "show v1", "if v1 b3 b2", "b2:", "ret v0",
                 "b3:", "v2 = v0", "v0 = v1", "v1 = v2", "jump b1");
-        SsaForge u = inSsa(COUNTDOWN);
+        SsaForge u = inSsa(Texts.COUNTDOWN);
         u.pass(7);
         due("nothing to move from b2", 3, u::plain);
         lists("a swap in b0", u, "b0:", "v0 = 0", "v1 = 3", "v2 = v0", "v0 = v1", "v1 = v2", "jump b1", "b1:", "if v0 b2 b3",
@@ -696,66 +590,34 @@ public final class PromisesTest {
     }
 
     private static void promise8Limits() {
-        SsaForge x = inSsa(wide(100));
+        SsaForge x = inSsa(Texts.wide(100));
         x.list();
         refusedWithoutChange("more than 2000 rows", ArithmeticException.class, x, x::plain);
         due("still ssa", 1, () -> x.count(0));
         due("no new blocks", 60, () -> x.count(1));
-        SsaForge z = inSsa(knots(25, 38, ""));
+        SsaForge z = inSsa(Texts.knots(25, 38, ""));
         z.plain();
         int room = 2000 - z.count(2);
-        SsaForge u = inSsa(knots(25, 38, repeat(room, "show 1 ")));
+        SsaForge u = inSsa(Texts.knots(25, 38, repeat(room, "show 1 ")));
         u.plain();
         due("2000 rows", 2000, () -> u.count(2));
-        SsaForge w = inSsa(knots(25, 38, repeat(room + 1, "show 1 ")));
+        SsaForge w = inSsa(Texts.knots(25, 38, repeat(room + 1, "show 1 ")));
         refusedWithoutChange("2001 rows", ArithmeticException.class, w, w::plain);
         refusedWithoutChange("2000 rows set too many registers", ArithmeticException.class, u, u::ssa);
-        SsaForge v = inSsa(star(60, 0));
+        SsaForge v = inSsa(Texts.star(60, 0));
         v.plain();
         int behind = 2000 - v.count(2);
-        SsaForge t = inSsa(star(60, behind));
+        SsaForge t = inSsa(Texts.star(60, behind));
         due("2000 rows, the last of them at the end", 1800, t::plain);
         due("all of them", 2000, () -> t.count(2));
-        SsaForge s = inSsa(star(60, behind + 1));
+        SsaForge s = inSsa(Texts.star(60, behind + 1));
         refusedWithoutChange("one row more at the end", ArithmeticException.class, s, s::plain);
-        SsaForge y = inSsa(wide(4));
+        SsaForge y = inSsa(Texts.wide(4));
         due("four phis of b1, and one of b3", 5, () -> y.count(3));
         int rows = y.count(2);
         int came = y.plain();
         due("rows that came", came, () -> y.count(2) - rows);
         due("back and forth", 5, y::ssa);
-    }
-
-    /** b1 has 30 preds that end with jump, and a phi for each register; rows of b59 stand behind all others. */
-    private static String star(int registers, int shows) {
-        StringBuilder text = new StringBuilder("b0:jump b1\nb1:");
-        text.append(each(registers, r -> "v" + (r + 1) + "=v" + (r + 1) + "+1 ")).append("if v0 b2 b3\n");
-        for (int b = 2; b < 58; b += 2) {
-            text.append("b").append(b).append(":jump b1\n");
-            text.append("b").append(b + 1).append(":if v0 b").append(b + 2).append(" b").append(b + 3).append("\n");
-        }
-        return text.append("b58:jump b1\nb59:").append(repeat(shows, "show 1 ")).append("ret 0").toString();
-    }
-
-    /** b1 has 59 preds; it uses registers that the others set, each another one, so that it has a phi for each. */
-    private static String wide(int registers) {
-        return wide(registers, 59);
-    }
-
-    private static String wide(int registers, int last) {
-        StringBuilder text = new StringBuilder("b0:v0=in jump b1\nb1:");
-        for (int r = 1; r < registers; r += 2) {
-            text.append("v0=v").append(r).append("+v").append(r + 1).append(" ");
-        }
-        text.append("if v0 b2 b3\n");
-        for (int b = 2; b <= last; b++) {
-            text.append("b").append(b).append(":");
-            for (int r = b - 1; r <= registers; r += last - 1) {
-                text.append("v").append(r).append("=in ");
-            }
-            text.append("if v0 b1 b").append(b == last ? 1 : b + 1).append("\n");
-        }
-        return text.toString();
     }
 
     // ---- promises 9 to 11
@@ -764,7 +626,7 @@ public final class PromisesTest {
         SsaForge x = new SsaForge();
         refused("fuel before state", IllegalArgumentException.class, () -> x.run(0));
         refused("no program", IllegalStateException.class, () -> x.run(1));
-        Call.read(x, COUNTDOWN);
+        Call.read(x, Texts.COUNTDOWN);
         refusedWithoutChange("0", IllegalArgumentException.class, x, () -> x.run(0));
         refusedWithoutChange("-1", IllegalArgumentException.class, x, () -> x.run(-1));
         refusedWithoutChange("100001", IllegalArgumentException.class, x, () -> x.run(100001));
@@ -906,18 +768,11 @@ public final class PromisesTest {
 
     // ---- promises 12 to 15
 
-    private static void counts(String what, SsaForge x, int... due) {
-        for (int i = 0; i < due.length; i++) {
-            int n = i;
-            due(what + " count " + i, due[i], () -> x.count(n));
-        }
-    }
-
     private static void promise12Count() {
         SsaForge x = new SsaForge();
         refused("-1", IllegalArgumentException.class, () -> x.count(-1));
         refused("8", IllegalArgumentException.class, () -> x.count(8));
-        Call.read(x, COUNTDOWN);
+        Call.read(x, Texts.COUNTDOWN);
         counts("plain", x, 0, 4, 3, 0, 2, 0, 0, 0);
         x.ssa();
         counts("ssa", x, 1, 4, 4, 2, 2, 0, 0, 0);
@@ -940,13 +795,6 @@ public final class PromisesTest {
         counts("phis", y, 1, 3, 4, 2, 2);
     }
 
-    private static void blocks(String what, SsaForge x, int kind, int... due) {
-        for (int b = 0; b < due.length; b++) {
-            int n = b;
-            due(what + " block " + b + " " + kind, due[b], () -> x.block(n, kind));
-        }
-    }
-
     private static void promise13Block() {
         SsaForge x = new SsaForge();
         refused("what first", IllegalArgumentException.class, () -> x.block(0, 5));
@@ -962,7 +810,7 @@ public final class PromisesTest {
         blocks("frontier", x, 2, 0, 1, 1, 1, 2, 1, 0, 0);
         blocks("live", x, 3, 1, 1, 2, 2, 2, 2, 1, 2);
         blocks("loop", x, 4, -1, -1, -1, 3, 4, 3, -1, -1);
-        SsaForge y = inSsa(COUNTDOWN);
+        SsaForge y = inSsa(Texts.COUNTDOWN);
         blocks("behind the phis", y, 3, 0, 2, 2, 1);
         SsaForge z = with("b0: jump b1 b1: if v1 b2 b3 b2: jump b1 b3: jump b4 b4: if v1 b3 b5 b5: if v1 b1 b6 b6: ret 0");
         blocks("loops of one head are one", z, 4, -1, 1, 1, 3, 3, 1, -1);
@@ -988,51 +836,26 @@ public final class PromisesTest {
         due("its bytes, too", 0x62303a0a72657420L, () -> x.word(0));
         Call.read(x, "b0: v1 = v2 - -5 ret -2147483648");
         lists("numbers", x, "b0:", "v1 = v2 - -5", "ret -2147483648");
-        SsaForge y = inSsa(wide(100));
+        SsaForge y = inSsa(Texts.wide(100));
         int fine = y.list();
         check("a long one", Boolean.toString(fine > 50000 && fine <= 65536), "true");
         check("all its bytes", Integer.toString(Call.listing(y).length()), Integer.toString(fine));
         SsaForge z = with("b0: ret 7");
         z.list();
-        Call.read(z, wide(130));
+        Call.read(z, Texts.wide(130));
         z.ssa();
         refusedWithoutChange("too long", IllegalStateException.class, z, z::list);
         due("the latest stays", 0x370a000000000000L, () -> z.word(8));
         promise14Edge();
     }
 
-    /** A long listing is lengthened by rows to just the bound, and by one byte more. */
     private static void promise14Edge() {
-        String text = "";
-        int missing = Integer.MAX_VALUE;
-        for (int registers = 100; registers < 130; registers += 2) {
-            for (int last = 45; last < 60; last++) {
-                String got = Call.answer(inSsa(wide(registers, last))::list);
-                int less = got.startsWith("throws") ? -1 : 65536 - Integer.parseInt(got);
-                if (less >= 7 && less < missing) {
-                    missing = less;
-                    text = wide(registers, last);
-                }
-            }
-        }
-        SsaForge y = inSsa(longer(text, missing));
+        SsaForge y = inSsa(Texts.listedAs(65536));
         due("65536 bytes", 65536, y::list);
         due("its last byte", 0x0a00000000000000L, () -> y.word(65535));
         refused("none of its bytes", IndexOutOfBoundsException.class, () -> y.word(65536));
-        SsaForge z = inSsa(longer(text, missing + 1));
+        SsaForge z = inSsa(Texts.listedAs(65537));
         refusedWithoutChange("65537 bytes", IllegalStateException.class, z, z::list);
-    }
-
-    /** Rows in b0 that make the listing longer by so many bytes: each takes 7 to 16. */
-    private static String longer(String text, int bytes) {
-        StringBuilder rows = new StringBuilder();
-        int left = bytes;
-        while (left > 0) {
-            int length = left <= 16 ? left : Math.min(16, left - 7);
-            rows.append("show ").append("1111111111", 0, length - 6).append(" ");
-            left -= length;
-        }
-        return text.replaceFirst("b0:", "b0:" + rows);
     }
 
     private static void promise15Word() {
