@@ -32,6 +32,8 @@ public final class CallBoundsTest extends Checks {
         promise15Word();
         resultIsTheLatestListing();
         theFirstExceptionThatFits();
+        usedOnesAnswerAsNewOnes();
+        askedOnesAnswerAsOthers();
         finish();
     }
 
@@ -241,6 +243,8 @@ public final class CallBoundsTest extends Checks {
         due("all are set", 1000, () -> y.pass(6));
         String more = Texts.knots(24, 38, repeat(1001 - set, "v199=1"));
         leavesAll("1001 registers", ArithmeticException.class, () -> rich(more), SsaForge::ssa);
+        // b1 is not reached, so that in ssa all others would have other numbers
+        leavesAll("1001 registers and a block", ArithmeticException.class, () -> rich(Texts.withIdleBlock(more)), SsaForge::ssa);
         // shows set nothing, and blocks that are not reached are dropped
         SsaForge z = with(Texts.knots(24, 38, repeat(1000 - set, "v199=1") + repeat(20, "show 1 ")));
         due("shows do not count", x.count(3), z::ssa);
@@ -259,6 +263,7 @@ public final class CallBoundsTest extends Checks {
         x.list();
         x.run(9);
         Call.read(x, text);
+        asked(x);
         x.feed(1, 2, 3, 4, 5);
         return x;
     }
@@ -328,13 +333,36 @@ public final class CallBoundsTest extends Checks {
         int shows = room + 1 + 38;
         int set = z.count(2) + z.count(3) - shows;
         due("passes go on", set, () -> z.pass(6));
+        refused("refused again", ArithmeticException.class, z::plain);
+        z.end(0);
+        Call.read(z, Texts.knots(25, 38, repeat(room, "show 1 ")));
+        z.ssa();
+        due("one row less", 2000 - rows, z::plain);
+        check("what was left of the refused one is not seen", Call.listing(z), Call.listing(y));
         SsaForge u = richSsa(more);
         u.pass(7);
         refused("coloured", IllegalStateException.class, () -> u.pass(7));
         check("fewer moves then", Boolean.toString(Call.answer(u::plain).startsWith("throws")), "false");
+        // the row that does not fit is a move, or the one that keeps a register of a ring
+        SsaForge w = inSwaps(0);
+        w.plain();
+        int free = 2000 - w.count(2);
+        SsaForge t = inSwaps(free);
+        t.plain();
+        due("2000 rows with rings", 2000, () -> t.count(2));
+        for (int i = 1; i <= 4; i++) {
+            int over = i;
+            leavesAll("rings, too many by " + i, ArithmeticException.class, () -> inSwaps(free + over), SsaForge::plain);
+        }
         // with most moves in new blocks at the end, and with all of them in blocks that are there
         leavesAll("in new blocks", ArithmeticException.class, () -> richSsa(Texts.wide(100)), SsaForge::plain);
         leavesAll("in old blocks", ArithmeticException.class, () -> richSsa(Texts.star(70, 0)), SsaForge::plain);
+    }
+
+    private static SsaForge inSwaps(int shows) {
+        SsaForge x = inSsa(Texts.swaps(22, shows));
+        x.pass(2);
+        return x;
     }
 
     // ---- promises 9 to 11
@@ -452,6 +480,7 @@ public final class CallBoundsTest extends Checks {
         peak("b0: v1 = in v2 = in v1 = v1 + v2 ret v1", 2, 2);
         peak("b0: v1 = in v2 = in v3 = v1 + v2 show v1 ret v3", 2, 2);
         peak("b0: v1 = in v2 = in v3 = v1 + v2 show v1 show v2 ret v3", 3, 3);
+        peak("b0: v1 = in v2 = in v1 = v1 + v2 v0 = 5 v1 = v1 + v0 ret v1", 2, 2);
         peak("b0: if v1 b1 b2 b1: ret v2 b2: ret v3", 3, 3);
         peak("b0: v1 = in v2 = 8 if v1 b1 b2 b1: v2 = 9 jump b2 b2: ret v2", 2, 2);
         peak("b0: v1 = 1 v2 = 2 jump b1 b1: v3 = v1 v1 = v2 v2 = v3 jump b1", 2, 2);
@@ -463,6 +492,12 @@ public final class CallBoundsTest extends Checks {
         y.pass(1);
         due("phis that nothing uses", 0, () -> y.block(2, 3));
         due("count behind all of them", 3, () -> y.count(4));
+        SsaForge z = inSsa("b0: v1 = in v2 = 1 v3 = 2 v4 = 3 if v1 b1 b2 b1: v2 = 4 v3 = 5 v4 = 6 jump b2 b2: if 0 b3 b4 b3: show v2 "
+                + "show v3 ret v4 b4: ret 0");
+        due("six rows, an if and a block", 8, () -> z.pass(1));
+        due("phis of numbers, which nothing uses", 0, () -> z.block(2, 3));
+        due("they alone are there at once", 3, () -> z.count(4));
+        due("so many colours", 3, () -> z.pass(7));
     }
 
     /** "5: REASON of the latest text; 6: bytes of RESULT; 7: bytes of the TAPE" */
@@ -620,5 +655,97 @@ public final class CallBoundsTest extends Checks {
         String more = Texts.knots(25, 38, repeat(100, "show 1 "));
         leavesAll("ssa", IllegalStateException.class, () -> richSsa(more), SsaForge::ssa);
         leavesAll("plain", ArithmeticException.class, () -> richSsa(more), SsaForge::plain);
+    }
+
+    // ---- an object that has been used
+
+    private static final String[] PROGRAMS = {
+        Texts.COUNTDOWN,
+        Texts.DIAMOND,
+        "b0: v1 = 4 v2 = v1 + 1 if v2 b1 b2 b1: ret v2 b2: ret v1",
+        "b0: v1 = in v2 = in v3 = in jump b1 b1: v4 = v1 + v2 v5 = v1 v1 = v2 v2 = v5 v6 = v4 v3 = v3 - 1 if v3 b2 b3 b2: jump b1 b3: "
+                + "show v6 ret v4 b4: jump b3",
+        "b0: jump b1 b1: v1 = 7 show v1 v2 = in if v2 b1 b2 b2: jump b3 b3: if v2 b4 b4 b4: ret v1",
+        "b0: v9 = in v8 = 5 v7 = v9 / v8 if v9 b1 b2 b1: v8 = 6 jump b2 b2: v6 = v9 + v8 show v6 ret v7",
+        "b0: v1 = in v2 = v1 if v1 b1 b2 b1: v2 = 5 if 0 b2 b3 b2: jump b4 b3: jump b4 b4: show v2 if v1 b2 b5 b5: ret v2",
+        "b0: v1 = in v2 = v1 + 1 v3 = v2 * 2 jump b1 b1: v4 = v4 + 1 v5 = v1 + 7 v6 = in if v6 b1 b2 b2: show v5 jump b3 b3: ret v1",
+    };
+
+    private static final String[] STEPS = {"", "1", "12", "123", "4", "5", "15", "6", "236", "7", "12345637", "2", "27", "3", "34", "43",
+        "55", "51", "155", "5515"};
+
+    /** The steps, with all that they answer and, if it is asked for before each of them, what is known of the blocks. */
+    private static String steps(SsaForge x, String program, String steps, boolean asking) {
+        StringBuilder all = new StringBuilder();
+        all.append(Call.read(x, program)).append(asking ? asked(x) : "").append(" ").append(x.ssa());
+        for (char step : steps.toCharArray()) {
+            all.append(asking ? asked(x) : "").append(" ").append(x.pass(step - '0'));
+        }
+        return all.toString();
+    }
+
+    private static String asked(SsaForge x) {
+        StringBuilder all = new StringBuilder();
+        for (int b = 0; b < x.count(1); b++) {
+            for (int what = 0; what <= 4; what++) {
+                all.append(" ").append(x.block(b, what));
+            }
+        }
+        return all + " " + x.count(4);
+    }
+
+    private static String everything(SsaForge x) {
+        StringBuilder all = new StringBuilder(asked(x));
+        for (int what = 0; what <= 5; what++) {
+            all.append(" ").append(x.count(what));
+        }
+        return all + "\n" + Call.listing(x) + x.run(500) + " " + x.told(0) + " " + x.told(2);
+    }
+
+    private static void alike(String what, SsaForge one, SsaForge other) {
+        check(what, everything(one), everything(other));
+        check(what, Call.answer(one::plain), Call.answer(other::plain));
+        check(what, everything(one), everything(other));
+    }
+
+    /** What other programs and steps have left inside an object is never seen. */
+    private static void usedOnesAnswerAsNewOnes() {
+        for (String before : PROGRAMS) {
+            for (String program : PROGRAMS) {
+                SsaForge used = new SsaForge();
+                for (String steps : STEPS) {
+                    SsaForge fresh = new SsaForge();
+                    steps(used, before, steps, true);
+                    asked(used);
+                    String what = program + " with " + steps + " behind " + before;
+                    check(what, steps(used, program, steps, true), steps(fresh, program, steps, true));
+                    alike(what, used, fresh);
+                }
+            }
+        }
+        String[] large = {Texts.wide(100), Texts.knots(20, 30, repeat(100, "v199=v199+1 ")),
+            "b0: " + repeat(190, "v1=v1+1 ") + "if v1 b1 b2 b1: v1 = 5 show v1 ret 0 b2: show v1 ret 1"};
+        for (String program : large) {
+            SsaForge used = inSsa(program);
+            String due = Call.listing(used);
+            for (int i = 0; i < 9; i++) {
+                Call.read(used, program);
+                used.ssa();
+                check("again and again", Call.listing(used), due);
+            }
+        }
+    }
+
+    /** Questions change nothing: what they have found out is not taken for what comes later. */
+    private static void askedOnesAnswerAsOthers() {
+        for (String program : PROGRAMS) {
+            for (String steps : STEPS) {
+                SsaForge asked = new SsaForge();
+                SsaForge other = new SsaForge();
+                steps(asked, program, steps, true);
+                steps(other, program, steps, false);
+                alike(program + " with " + steps, asked, other);
+            }
+        }
     }
 }

@@ -19,12 +19,22 @@ abstract class Checks {
         checked++;
         if (!got.equals(due)) {
             wrong++;
-            System.out.println(shortened(what) + " answered\n" + shortened(got) + "\ndue is\n" + shortened(due));
+            int from = got.length() + due.length() > 2000 ? firstDifference(got, due) : 0;
+            System.out.println(shortened(what) + " answered from " + from + " on\n" + shortened(got.substring(from)) + "\ndue is\n"
+                    + shortened(due.substring(from)));
         }
     }
 
+    private static int firstDifference(String got, String due) {
+        int i = 0;
+        while (i < got.length() && i < due.length() && got.charAt(i) == due.charAt(i)) {
+            i++;
+        }
+        return i;
+    }
+
     private static String shortened(String text) {
-        return text.length() > 2000 ? text.substring(0, 2000) + ".." : text;
+        return text.length() > 1000 ? text.substring(0, 1000) + ".." : text;
     }
 
     static void due(String what, long due, Call.Question question) {

@@ -29,6 +29,7 @@ public final class PassBoundsTest extends Checks {
         joinsThenIfs();
         numbers();
         coloursTakenAsIfLive();
+        coloursBehindIt();
         coloursGivenBefore();
         colouredForm();
         plainButItself();
@@ -163,6 +164,11 @@ public final class PassBoundsTest extends Checks {
         SsaForge shut = inSsa("b0: v1 = 4 v3 = 0 jump b1 b1: show v1 if v3 b2 b3 b2: v1 = in jump b1 b3: ret v1");
         passes("a way that is not open does not count", shut, 1, 5);
         lists("no way back", shut, "b0:", "jump b1", "b1:", "show 4", "jump b2", "b2:", "ret 4");
+        // each round tells one register more: v3 is any by in, v2 by v3 and v1 by v2
+        SsaForge late = inSsa("b0: v1 = 0 v2 = 0 v3 = 0 jump b1 b1: show v1 v1 = v2 v2 = v3 v3 = in v4 = in if v4 b1 b2 b2: ret v1");
+        passes("any comes by and by", late, 1, 3);
+        lists("all phis stay", late, "b0:", "jump b1", "b1:", "v3 = phi(b0 0, b1 v6)", "v4 = phi(b0 0, b1 v7)",
+                "v5 = phi(b0 0, b1 v8)", "show v3", "v6 = v4", "v7 = v5", "v8 = in", "v9 = in", "if v9 b1 b2", "b2:", "ret v6");
         SsaForge opened = inSsa("b0: v1 = 4 v3 = 0 jump b1 b1: if v3 b2 b3 b2: ret v1 b3: v3 = v3 + 1 v1 = v1 + 1 jump b1");
         passes("a way that is opened by the phi", opened, 1, 2);
     }
@@ -185,6 +191,13 @@ public final class PassBoundsTest extends Checks {
         SsaForge w = inSsa("b0: if 0 b1 b1 b1: ret 1");
         passes("a number, with one goal twice", w, 1, 1);
         lists("a jump", w, "b0:", "jump b1", "b1:", "ret 1");
+        // b1 stands before b2 in the order, and is gone by b2 alone
+        SsaForge first = inSsa("b0: if 1 b2 b3 b1: if 1 b4 b5 b2: if 1 b1 b5 b3: jump b1 b4: ret 5 b5: ret 6");
+        passes("three ifs and two blocks", first, 1, 5);
+        lists("first goals", first, "b0:", "jump b2", "b1:", "jump b3", "b2:", "jump b1", "b3:", "ret 5");
+        SsaForge second = inSsa("b0: if 0 b3 b2 b1: if 0 b5 b4 b2: if 0 b5 b1 b3: jump b1 b4: ret 5 b5: ret 6");
+        passes("three ifs and two blocks", second, 1, 5);
+        lists("second goals", second, "b0:", "jump b2", "b1:", "jump b3", "b2:", "jump b1", "b3:", "ret 5");
         // what is behind the if of b1 is not looked at before v1 is told, and then only one of it
         SsaForge t = inSsa("b0: v1 = 1 jump b1 b1: if v1 b2 b3 b2: show v1 jump b1 b3: v1 = 0 jump b1");
         passes("the phi keeps its number", t, 1, 4);
@@ -307,6 +320,8 @@ public final class PassBoundsTest extends Checks {
         passes("nothing more", x, 3, 0);
         SsaForge y = inSsa("b0: v1 = in v2 = v1 + 1 v3 = v2 + 1 v4 = v3 + 1 ret v3");
         passes("what needed ones use is needed", y, 3, 1);
+        SsaForge w = inSsa("b0: v1 = 1 v2 = 2 v3 = 3 v4 = v1 + v2 v5 = v3 - v4 v6 = 6 v7 = 6 - v6 show v7 ret v5");
+        passes("on both sides", w, 3, 0);
         SsaForge z = inSsa("b0: v1 = in v2 = v1 + 1 v3 = v2 + 1 v4 = v3 + 1 ret 0");
         passes("a whole chain", z, 3, 3);
         lists("but in", z, "b0:", "v0 = in", "ret 0");
@@ -364,6 +379,8 @@ public final class PassBoundsTest extends Checks {
         passes("an if with one goal twice", z, 4, 0);
         SsaForge u = inSsa("b0: v1 = in if v1 b1 b4 b1: jump b2 b2: " + body + " b4: jump b2");
         passes("two preds outside", u, 4, 0);
+        SsaForge r = inSsa("b0: v1 = in if v1 b1 b2 b1: jump b2 b2: " + body);
+        passes("b0 and another outside", r, 4, 0);
         SsaForge w = inSsa("b0: v1 = in jump b1 b1: v2 = v1 + 1 show v2 if v2 b2 b3 b2: jump b1 b3: if v2 b1 b4 b4: ret 0");
         passes("more preds inside", w, 4, 1);
         SsaForge t = inSsa("b0: v1 = in jump b1 b1: v2 = v1 + 1 show v2 ret 0");
@@ -387,6 +404,11 @@ public final class PassBoundsTest extends Checks {
         for (String row : not) {
             passes("not moved: " + row, inLoop(row), 4, 0);
         }
+        SsaForge y = inSsa("b0: jump b1 b1: v1 = 7 show v1 v2 = in if v2 b1 b2 b2: ret 0");
+        passes("the first row of all", y, 4, 1);
+        lists("to an empty block", y, "b0:", "v0 = 7", "jump b1", "b1:", "show v0", "v1 = in", "if v1 b1 b2", "b2:", "ret 0");
+        SsaForge z = inSsa("b0: jump b1 b1: v1 = in v2 = v1 + 1 show v2 if v1 b1 b2 b2: ret 0");
+        passes("nothing is set outside", z, 4, 0);
     }
 
     /** v9 and v8 are set outside, v1 and v2 in the loop; v1 by a phi, too, where the row uses it. */
@@ -441,6 +463,14 @@ public final class PassBoundsTest extends Checks {
         passes("one", x, 5, 1);
         lists("joined", x, "b0:", "show 0", "show 1", "ret 5");
         passes("nothing more", x, 5, 0);
+        lists("as it was", x, "b0:", "show 0", "show 1", "ret 5");
+        for (int[] again : new int[][] {{5, 5, 1, 5}, {5, 1, 5, 5}}) {
+            SsaForge s = inSsa("b0: show 0 jump b1 b1: show 1 v1 = in if v1 b2 b3 b2: ret 2 b3: ret 3");
+            for (int i = 0; i < again.length; i++) {
+                passes("one, and nothing more", s, again[i], i == 0 ? 1 : 0);
+                lists("three are left", s, "b0:", "show 0", "show 1", "v0 = in", "if v0 b1 b2", "b1:", "ret 2", "b2:", "ret 3");
+            }
+        }
         SsaForge y = inSsa("b0: v1 = in if v1 b1 b2 b1: jump b3 b2: jump b3 b3: ret 0");
         passes("two preds, or one that ends with if", y, 5, 0);
         SsaForge z = inSsa("b0: jump b1 b1: show 1 jump b1");
@@ -491,6 +521,17 @@ public final class PassBoundsTest extends Checks {
         passes("but next time", y, 5, 1);
         SsaForge z = inSsa("b0: v1 = in if v1 b1 b2 b1: ret 1 b2: ret 2");
         passes("two goals", z, 5, 0);
+        SsaForge u = inSsa("b0: v1 = in v2 = v1 + 1 if v2 b1 b1 b1: ret 0");
+        due("its operand is live", 1, () -> u.count(4));
+        passes("one", u, 5, 1);
+        passes("nothing needs its operand any more", u, 3, 1);
+        SsaForge w = inSsa("b0: v1 = in if v1 b1 b1 b1: v2 = in ret v2");
+        passes("one", w, 5, 1);
+        blocks("not live any more", w, 3, 0, 0);
+        SsaForge t = inSsa(Texts.wide(100));
+        String many = Call.listing(t);
+        passes("with thousands of operands", t, 5, 1);
+        check("all are there", Call.listing(t), many.replaceAll("if v\\d+ b1 b1\n", "jump b1\n"));
     }
 
     // ---- passes 6 and 7
@@ -538,6 +579,30 @@ public final class PassBoundsTest extends Checks {
         passes("numbers", x, 6, 5);
         passes("a join", x, 5, 1);
         return x;
+    }
+
+    /** "behind it": what is dead behind the phis has no say behind a row, and what another block left none at all. */
+    private static void coloursBehindIt() {
+        String way = "b0: v3 = in v1 = 8 v2 = 9 if v3 b1 b2 b1: v1 = in v2 = in jump b2 b2: v4 = in show v4 if 0 b3 b4 b3: ret v1 "
+                + "b4: ret v2";
+        SsaForge x = inSsa(way);
+        passes("two numbers, an if and a block", x, 1, 4);
+        passes("two", x, 7, 2);
+        lists("a dead phi's colour is free behind the row", x, "b0:", "v0 = in", "if v0 b1 b2", "b1:", "v0 = in", "v1 = in",
+                "jump b2", "b2:", "v0 = phi(b0 8, b1 v0)", "v1 = phi(b0 9, b1 v1)", "v0 = in", "show v0", "jump b3", "b3:",
+                "ret v1");
+        SsaForge y = inSsa("b0: v2 = in v1 = in if v1 b1 b2 b1: v3 = 5 jump b3 b2: v3 = 6 if v1 b3 b4 b3: show v3 ret v2 b4: ret 0");
+        passes("three", y, 7, 3);
+        lists("b4 stands before b3 in the order", y, "b0:", "v0 = in", "v1 = in", "if v1 b1 b2", "b1:", "v1 = 5", "jump b3", "b2:",
+                "v2 = 6", "if v1 b3 b4", "b3:", "v1 = phi(b1 v1, b2 v2)", "show v1", "ret v0", "b4:", "ret 0");
+        // with 64 registers before it, the dead phi of b2 is v64, the greatest; v0 is live through all blocks
+        SsaForge z = inSsa("b0: v7 = in " + repeat(59, "v8 = in ") + "v3 = in v1 = 8 v2 = 9 if v3 b1 b2 b1: v1 = in v2 = in jump b2 b2: "
+                + "if 0 b3 b4 b3: ret v2 b4: show v1 ret v7");
+        passes("two numbers, an if and a block", z, 1, 4);
+        passes("registers", z, 6, 65);
+        blocks("live", z, 3, 0, 1, 2, 2);
+        due("at once", 3, () -> z.count(4));
+        passes("three", z, 7, 3);
     }
 
     /** "the least colour that no register has that is LIVE behind it .., and that was given before" */
@@ -657,6 +722,21 @@ public final class PassBoundsTest extends Checks {
         lists("one for both ways", y, "b0:", "v0 = in", "v1 = in", "v2 = v0", "v3 = v1", "jump b1", "b1:", "show v2", "show v3",
                 "v7 = in", "if v7 b2 b3", "b2:", "v4 = v2", "v2 = v3", "v3 = v4", "jump b1", "b3:", "v4 = v2", "v2 = v3", "v3 = v4",
                 "jump b1");
+        SsaForge u = inSsa("b0: v9 = in v1 = in v2 = in jump b1 b1: show v1 v3 = v1 v1 = v2 v2 = v3 jump b1");
+        passes("copies", u, 2, 3);
+        due("five", 5, u::plain);
+        lists("not v0, which is set and never used", u, "b0:", "v0 = in", "v1 = in", "v2 = in", "v3 = v1", "v4 = v2", "jump b1",
+                "b1:", "show v3", "v5 = v3", "v3 = v4", "v4 = v5", "jump b1");
+        String dead = "b0: v5 = in v6 = in if v5 b1 b2 b1: v9 = in jump b2 b2: if 0 b3 b4 b3: ret v9 b4: show v5 v7 = v5 v5 = v6 v6 = v7 "
+                + "jump b4";
+        SsaForge w = inSsa(dead);
+        passes("v0 = 0, an if and a block", w, 1, 3);
+        passes("copies", w, 2, 3);
+        passes("numbers", w, 6, 6);
+        lists("v3 is a phi that nothing uses", w, "b0:", "v0 = in", "v1 = in", "if v0 b1 b2", "b1:", "v2 = in", "jump b2", "b2:",
+                "v3 = phi(b0 0, b1 v2)", "jump b3", "b3:", "v4 = phi(b2 v0, b3 v5)", "v5 = phi(b2 v1, b3 v4)", "show v4", "jump b3");
+        due("seven", 7, w::plain);
+        check("not v3", Boolean.toString(Call.listing(w).contains("v6 = v4\nv4 = v5\nv5 = v6\n")), "true");
         SsaForge z = inSsa(both);
         passes("copies", z, 2, 3);
         passes("numbers", z, 6, 5);

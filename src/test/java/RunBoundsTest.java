@@ -320,6 +320,16 @@ public final class RunBoundsTest extends Checks {
         blocks("frontiers", z, 2, 0, 0, 2, 2);
         SsaForge u = with("b0: ret 0");
         blocks("b0 alone", u, 0, -1);
+        // two rings that are entered at several places: no block but b0 is on all ways
+        String[] rings = {"b0: if v0 b1 b2 b1: jump b5 b2: if v0 b4 b3 b3: jump b4 b4: if v0 b5 b3 b5: jump b4",
+            "b0: if v0 b2 b1 b1: jump b5 b2: if v0 b3 b4 b3: jump b4 b4: if v0 b3 b5 b5: jump b4",
+            "b0: if v0 b2 b1 b1: jump b5 b2: if v0 b4 b3 b3: jump b4 b4: if v0 b5 b3 b5: jump b4",
+            "b0: if v0 b1 b2 b1: jump b5 b2: if v0 b3 b4 b3: jump b4 b4: if v0 b3 b5 b5: jump b4"};
+        for (String ring : rings) {
+            blocks("rings", with(ring), 0, -1, 0, 0, 0, 0, 0);
+            blocks("their frontiers", with(ring), 2, 0, 1, 2, 1, 2, 1);
+            blocks("no heads", with(ring), 4, -1, -1, -1, -1, -1, -1);
+        }
     }
 
     /** "FRONTIER of a: the blocks that a does not DOMINATE, or that are a, to which a WAY leads .." */
@@ -350,6 +360,8 @@ public final class RunBoundsTest extends Checks {
         SsaForge u = with("b0: jump b3 b1: if v1 b2 b4 b2: if v1 b1 b3 b3: jump b1 b4: ret 0");
         // b3 is the head of b3 b1 b2, b1 that of b1 b2
         blocks("a head with a greater number", u, 4, -1, 1, 1, 3, -1);
+        SsaForge s = with("b0: jump b1 b1: if v1 b2 b6 b2: jump b3 b3: jump b4 b4: jump b5 b5: jump b1 b6: ret 0");
+        blocks("a long one", s, 4, -1, 1, 1, 1, 1, 1, -1);
         SsaForge w = with("b0: if v1 b1 b2 b1: if v1 b2 b3 b2: if v1 b1 b3 b3: ret 0");
         blocks("a ring that no block of it dominates", w, 4, -1, -1, -1, -1);
         SsaForge t = with("b0: jump b1 b1: if v1 b2 b3 b2: jump b4 b3: jump b4 b4: if v1 b1 b5 b5: ret 0");
@@ -360,6 +372,15 @@ public final class RunBoundsTest extends Checks {
     private static void liveAtAPlace() {
         SsaForge x = with("b0: v1 = v1 + v2 v3 = v1 show v3 if v4 b1 b2 b1: v5 = v6 ret v5 b2: v6 = 1 ret v6");
         blocks("used before they are set", x, 3, 4, 1, 0);
+        String[] uses = {"v1 = v199", "v1 = v199 + 2", "v1 = 2 + v199", "v1 = v0 + v199", "show v199"};
+        for (String use : uses) {
+            SsaForge s = with("b0: jump b1 b1: " + use + " ret 0 b2: ret v0 b3: ret 0");
+            int more = use.contains("v0") ? 1 : 0;
+            blocks("v199 in " + use, s, 3, 1 + more, 1 + more, 1, 0);
+            due("at once in " + use, 1 + more, () -> s.count(4));
+        }
+        blocks("v199 in if", with("b0: if v199 b1 b1 b1: ret v0 b2: ret 0"), 3, 2, 1, 0);
+        blocks("v199 in ret", with("b0: jump b1 b1: ret v199 b2: ret 0"), 3, 1, 1, 0);
         SsaForge y = with("b0: if v1 b1 b2 b1: v2 = 1 jump b3 b2: jump b3 b3: ret v2");
         blocks("on some ways", y, 3, 2, 0, 1, 1);
         SsaForge z = with("b0: jump b1 b1: v1 = 2 jump b2 b2: jump b1");

@@ -25,6 +25,7 @@ public final class TextBoundsTest extends Checks {
         signsBeforeRules();
         rightTextIsTheProgram();
         wrongTextThereIsNone();
+        eachTextAnew();
         finish();
     }
 
@@ -124,7 +125,8 @@ public final class TextBoundsTest extends Checks {
     /** "a byte or word that is no sign" */
     private static void bytesAndWordsThatAreNoSign() {
         for (String word : new String[] {"a", "z", "v", "b", "i", "inn", "sho", "shows", "f", "iff", "jum", "jumps", "re",
-            "rets", "ph", "phis", "vv", "bb", "vin", "inv", "abcdefghijklmnopqrstuvwxyz"}) {
+            "rets", "ph", "phis", "vv", "bb", "vin", "inv", "reta", "aret", "retz", "zret", "showa", "jumpz",
+            "abcdefghijklmnopqrstuvwxyz"}) {
             wrongText("b0: " + word + " 1 ret 1", 4, 1);
         }
         for (String word : new String[] {"in", "phi"}) {
@@ -434,6 +436,27 @@ public final class TextBoundsTest extends Checks {
                 due("a right one", -1, () -> Call.read(x, "b0: v1 = in ret v1"));
                 runs("input stays", x, 9, 0, 8);
             }
+        }
+    }
+
+    /** What an earlier text held, or where it broke off, has no say. */
+    private static void eachTextAnew() {
+        String[] before = {"b0: v1 =", "b0: if v1 b1", "b0:", "b0", "b0: ret", "b0: v1 = 2 +", "b0: show", "b0: jump", "b0: ret 1 b1:",
+            "b0: ret 1", "b0: jump b1 b1: jump b2 b2: ret 1", "b2: ret 1", "b0: jump b9", "b0:" + repeat(201, "show 1 ") + "ret 1"};
+        for (String first : before) {
+            SsaForge x = new SsaForge();
+            Call.read(x, first);
+            due("a right one behind " + first, -1, () -> Call.read(x, "b0: v1 = 2 ret v1"));
+            lists("alone", x, "b0:", "v1 = 2", "ret v1");
+            Call.read(x, first);
+            due("a goal of the text before", 9, () -> Call.read(x, "b0: jump b2 b1: ret 1"));
+            due("its reason", 3, () -> x.count(5));
+            Call.read(x, first);
+            due("too short behind " + first, 2, () -> Call.read(x, "b0"));
+            Call.read(x, first);
+            due("no number behind a number", 0, () -> Call.read(x, "-1"));
+            Call.read(x, first);
+            due("rows are counted anew", -1, () -> Call.read(x, "b0:" + repeat(200, "show 1 ") + "ret 1"));
         }
     }
 

@@ -1,3 +1,5 @@
+import java.util.regex.Pattern;
+
 /** Texts that several tests use, and makers of large ones. */
 final class Texts {
     static final String COUNTDOWN =
@@ -23,6 +25,13 @@ final class Texts {
         return text.toString();
     }
 
+    /** The same with a b1 that is not reached: all blocks behind b0 have the next number. */
+    static String withIdleBlock(String text) {
+        String shifted = Pattern.compile("b([1-9][0-9]*)").matcher(text)
+                .replaceAll(found -> "b" + (Integer.parseInt(found.group(1)) + 1));
+        return shifted.replaceFirst("b2:", "b1:jump b2\nb2:");
+    }
+
     /** b1 has 30 preds that end with jump, and a phi for each register; rows of b59 stand behind all others. */
     static String star(int registers, int shows) {
         StringBuilder text = new StringBuilder("b0:jump b1\nb1:");
@@ -32,6 +41,20 @@ final class Texts {
             text.append("b").append(b + 1).append(":if v0 b").append(b + 2).append(" b").append(b + 3).append("\n");
         }
         return text.append("b58:jump b1\nb59:").append(Checks.repeat(shows, "show 1 ")).append("ret 0").toString();
+    }
+
+    /** As a star, but b1 swaps pairs of registers: each way back to it has as many rings. The shows are b0's. */
+    static String swaps(int pairs, int shows) {
+        StringBuilder text = new StringBuilder("b0:").append(Checks.repeat(shows, "show 1 ")).append("jump b1\nb1:");
+        for (int r = 1; r < 2 * pairs; r += 2) {
+            text.append("v0=v").append(r).append(" v").append(r).append("=v").append(r + 1).append(" v").append(r + 1).append("=v0 ");
+        }
+        text.append("if v100 b2 b3\n");
+        for (int b = 2; b < 58; b += 2) {
+            text.append("b").append(b).append(":jump b1\n");
+            text.append("b").append(b + 1).append(":if v100 b").append(b + 2).append(" b").append(b + 3).append("\n");
+        }
+        return text.append("b58:jump b1\nb59:ret 0").toString();
     }
 
     /** b1 has 59 preds; it uses registers that the others set, each another one, so that it has a phi for each. */
