@@ -15,10 +15,12 @@ public final class CallBoundsTest extends Checks {
         promise5WhatIsLeftOfLessGoes();
         promise6States();
         promise6Limits();
+        promise6RowsAndPhis();
         promise7AnotherNumber();
         promise7NoProgramThatIsSsa();
         promise8States();
         promise8Limits();
+        promise8Blocks();
         promise9Fuel();
         promise9NoProgram();
         promise10Told();
@@ -255,6 +257,19 @@ public final class CallBoundsTest extends Checks {
         leavesAll("a row v = 0 more", ArithmeticException.class, () -> rich(zero), SsaForge::ssa);
     }
 
+    /**
+     * "it would have more than 2000 ROWS and PHIS": all but the shows, of which a text has 200 at most, set a register,
+     * so that 1000 registers come first. As many as can be had are taken.
+     */
+    private static void promise6RowsAndPhis() {
+        SsaForge x = inSsa(Texts.knots(24, 38, ""));
+        int free = 1000 - x.pass(6);
+        SsaForge y = with(Texts.knots(24, 38, repeat(free, "v199=1") + repeat(124 - free, "show 1 ")));
+        due("200 rows", 200, () -> y.count(2));
+        due("ssa", x.count(3), y::ssa);
+        due("rows and phis", 1000 + 124 - free + 38, () -> y.count(2) + y.count(3));
+    }
+
     /** A program with a result, a run, an input and a tape beside it. */
     private static SsaForge rich(String text) {
         SsaForge x = new SsaForge();
@@ -357,6 +372,23 @@ public final class CallBoundsTest extends Checks {
         // with most moves in new blocks at the end, and with all of them in blocks that are there
         leavesAll("in new blocks", ArithmeticException.class, () -> richSsa(Texts.wide(100)), SsaForge::plain);
         leavesAll("in old blocks", ArithmeticException.class, () -> richSsa(Texts.star(70, 0)), SsaForge::plain);
+    }
+
+    /**
+     * "or 300 blocks": a text has 60, with two ways each at most, and ways are split once, so that there are never more
+     * than 180. Here b1 to b57 have two ways that are split, and b0 has one.
+     */
+    private static void promise8Blocks() {
+        SsaForge x = inSsa(Texts.rungs());
+        due("60 blocks", 60, () -> x.count(1));
+        x.plain();
+        due("all that can come", 60 + 2 * 57 + 1, () -> x.count(1));
+        x.ssa();
+        x.pass(2);
+        x.plain();
+        due("not one more", 60 + 2 * 57 + 1, () -> x.count(1));
+        refused("b175", NoSuchElementException.class, () -> x.block(175, 0));
+        due("b174", 1, () -> x.block(174, 1));
     }
 
     private static SsaForge inSwaps(int shows) {

@@ -43,6 +43,15 @@ final class Texts {
         return text.append("b58:jump b1\nb59:").append(Checks.repeat(shows, "show 1 ")).append("ret 0").toString();
     }
 
+    /** Each block but the last two may go on by one or by two, and has another v1 for both ways. */
+    static String rungs() {
+        StringBuilder text = new StringBuilder("b0:v1=in if v1 b1 b2\n");
+        for (int b = 1; b < 58; b++) {
+            text.append("b").append(b).append(":v1=v1-1 if v1 b").append(b + 1).append(" b").append(b + 2).append("\n");
+        }
+        return text.append("b58:v1=v1-1 jump b59\nb59:ret v1").toString();
+    }
+
     /** As a star, but b1 swaps pairs of registers: each way back to it has as many rings. The shows are b0's. */
     static String swaps(int pairs, int shows) {
         StringBuilder text = new StringBuilder("b0:").append(Checks.repeat(shows, "show 1 ")).append("jump b1\nb1:");
