@@ -1104,12 +1104,17 @@ public final class SsaForge {
         /** Which blocks there are is known only now; the first wrong goal may stand before another fault. */
         private void checkGoals() {
             for (int b = 0; b < TEXT_BLOCKS; b++) {
-                boolean wrong = goalPlace[b] >= 0 && (b == 0 || !labelled[b]);
+                boolean wrong = goalPlace[b] >= 0 && (b == 0 || !isBlocks(b));
                 if (wrong && (brokenPlace < 0 || goalPlace[b] < brokenPlace)) {
                     brokenPlace = goalPlace[b];
                     reason = 3;
                 }
             }
+        }
+
+        /** Where a label is wrong, it alone is the fault: its block can be meant by what it bears or should bear. */
+        private boolean isBlocks(int goal) {
+            return labelled[goal] || goal < blockCount;
         }
     }
 

@@ -4,6 +4,9 @@ import java.util.Random;
 
 /** Random functions and random runs of calls: every answer is the one that the plain model gives. */
 public final class FuzzTest {
+    /** "An object is used for at most 512 calls" */
+    private static final int MOST_CALLS = 512;
+
     private static int wrong = 0;
     private final Random random;
     private final SsaForge x = new SsaForge();
@@ -22,7 +25,7 @@ public final class FuzzTest {
             FuzzTest test = new FuzzTest(seed);
             try {
                 if (seed % 5 == 0) {
-                    test.anyCalls();
+                    test.anyCalls(seed % 50 == 0 ? MOST_CALLS : 150);
                 } else {
                     test.oneObject();
                 }
@@ -53,8 +56,8 @@ public final class FuzzTest {
     }
 
     /** Calls in any order with any arguments, most of them in no state for it. */
-    private void anyCalls() {
-        for (int i = 0; i < 150; i++) {
+    private void anyCalls(int calls) {
+        for (int i = 0; i < calls; i++) {
             int n = random.nextInt(8) == 0 ? random.nextInt() : random.nextInt(12) - 2;
             int m = random.nextInt(9) - 2;
             switch (random.nextInt(18)) {

@@ -278,6 +278,7 @@ final class Model {
             Set<String> names = new HashSet<>();
             for (int i = 0; i < labels.size(); i++) {
                 names.add(labels.get(i).text());
+                names.add("b" + i);
                 if (!labels.get(i).text().equals("b" + i)) {
                     broken.put(labels.get(i).place(), 2);
                 }

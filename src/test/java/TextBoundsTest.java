@@ -340,9 +340,13 @@ public final class TextBoundsTest extends Checks {
         wrongText("b0: ret 1 b1: if 1 b0 b9", 19, 3);
         wrongText("b0: ret 1 b1: if 1 b9 b0", 19, 3);
         wrongText("b0: if 1 b1 b3 b1: jump b2 b2: if 1 b0 b1", 12, 3);
-        // the goal's number is a block's, though that one stands at a wrong place
+        // a label that is wrong is the fault itself, not the goals that mean its block by what it bears or should bear
         wrongText("b0: jump b2 b2: ret 1", 12, 2);
-        wrongText("b0: jump b1 b2: ret 1", 9, 3);
+        wrongText("b0: jump b1 b2: ret 1", 12, 2);
+        wrongText("b0: if 1 b1 b2 b2: ret 1", 15, 2);
+        wrongText("b0: jump b2 b1: ret 1 b3: ret 2", 22, 2);
+        wrongText("b0: jump b1 b0: ret 1", 12, 2);
+        wrongText("b0: jump b3 b2: ret 1", 9, 3);
     }
 
     /** "4: the first sign of the 201st ROW" */
@@ -375,7 +379,8 @@ public final class TextBoundsTest extends Checks {
         wrongText("b0: " + full + "ret 1 b2: v1=1 ret 1", end + 6, 2);
         wrongText("b1: " + full + "v1=1 jump b0", 0, 2);
         wrongText("b0: jump b0 b1: jump b1 b3: ret 1", 9, 3);
-        wrongText("b0: jump b1 b1: jump b2 b3: jump b0", 21, 3);
+        wrongText("b0: jump b1 b1: jump b2 b3: jump b0", 24, 2);
+        wrongText("b0: jump b1 b1: jump b4 b3: jump b0", 21, 3);
     }
 
     /** "first sign that can't stand there .. if there is none, of the first sign that breaks a RULE" */
