@@ -77,15 +77,9 @@ public final class FaceTest extends Checks {
     }
 
     private static void nothingElse() {
-        Set<String> open = new TreeSet<>();
-        for (Method method : SsaForge.class.getDeclaredMethods()) {
-            if (!Modifier.isPrivate(method.getModifiers())) {
-                open.add(method.getName());
-            }
-        }
         for (Method method : SsaForge.class.getDeclaredMethods()) {
             if (Modifier.isPrivate(method.getModifiers())) {
-                holds(method.getName() + " has a name of its own", !open.contains(method.getName()));
+                hasItsOwnName(method);
             }
         }
         for (Field field : SsaForge.class.getDeclaredFields()) {
@@ -99,10 +93,18 @@ public final class FaceTest extends Checks {
             int modifiers = inside.getModifiers();
             holds(inside.getName() + " can't be seen", !Modifier.isPublic(modifiers) && !Modifier.isProtected(modifiers));
             holds(inside.getName() + " is static", Modifier.isStatic(modifiers));
+            for (Method method : inside.getDeclaredMethods()) {
+                hasItsOwnName(method);
+            }
             for (Field field : inside.getDeclaredFields()) {
                 staticOnesAreFinal(field);
             }
         }
+    }
+
+    private static void hasItsOwnName(Method method) {
+        boolean taken = Arrays.stream(FACE).anyMatch(head -> head.contains(" " + method.getName() + "("));
+        holds(method.getName() + " has a name of its own", !taken);
     }
 
     private static void staticOnesAreFinal(Field field) {

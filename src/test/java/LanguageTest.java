@@ -4,6 +4,8 @@ import java.lang.reflect.Modifier;
 import java.nio.charset.StandardCharsets;
 import java.nio.file.Files;
 import java.nio.file.Path;
+import java.util.Arrays;
+import java.util.Set;
 import java.util.regex.Matcher;
 import java.util.regex.Pattern;
 
@@ -14,6 +16,8 @@ public final class LanguageTest extends Checks {
     private static final int MOST_PARAMETERS = 7;
     private static final int MOST_CLASSES = 12;
     private static final int MOST_FIELDS = 20;
+    private static final Set<Class<?>> CONSTANTS = Set.of(int.class, long.class, boolean.class, char.class, String.class,
+            int[].class, long[].class, char[].class, byte[].class);
 
     public static void main(String[] args) throws IOException {
         String code = withoutTexts(Files.readString(SOURCE, StandardCharsets.ISO_8859_1));
@@ -67,9 +71,8 @@ public final class LanguageTest extends Checks {
     }
 
     private static String constantOf(Field field) {
-        Class<?> type = field.getType();
-        boolean plain = type == int.class || type == long.class || type == boolean.class || type == char.class || type == String.class;
-        return plain && Modifier.isFinal(field.getModifiers()) ? "constant" : "of " + type + " or not final";
+        boolean plain = CONSTANTS.contains(field.getType());
+        return plain && Modifier.isFinal(field.getModifiers()) ? "constant" : "of " + field.getType() + " or not final";
     }
 
     private static void rule6Exceptions(String code) {
@@ -107,7 +110,7 @@ public final class LanguageTest extends Checks {
 
     private static Class<?>[] allClasses() {
         Class<?>[] inside = SsaForge.class.getDeclaredClasses();
-        Class<?>[] all = java.util.Arrays.copyOf(inside, inside.length + 1);
+        Class<?>[] all = Arrays.copyOf(inside, inside.length + 1);
         all[inside.length] = SsaForge.class;
         return all;
     }
